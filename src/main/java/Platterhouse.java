@@ -768,8 +768,9 @@ public final class Platterhouse {
             this.film = film;
             this.hall = hall;
             this.start = start;
-            this.places = new int[hall.rows * hall.seats];
-            Arrays.fill(places, NONE);
+            int[] free = new int[hall.rows * hall.seats];
+            Arrays.fill(free, NONE);
+            this.places = free;
         }
 
         int end() {
@@ -792,7 +793,7 @@ public final class Platterhouse {
             return age < GROWN ? price / 2 : price;
         }
 
-        // A hall has a seat in each row, so the number of seats never is a divisor of 0.
+        // Each row has a seat at least, so max changes nothing: it shows that the divisor is never 0.
         int rowOf(int place) {
             return place / Math.max(hall.seats, 1);
         }
