@@ -36,7 +36,9 @@ public final class PromiseTest {
         try {
             got = "answered " + call.answer();
         } catch (RuntimeException e) {
-            if (e.getClass() == want) {
+            // What the library throws below the class is no answer, even if its name is the due one.
+            StackTraceElement[] trace = e.getStackTrace();
+            if (e.getClass() == want && trace.length > 0 && trace[0].getClassName().startsWith("Platterhouse")) {
                 return;
             }
             got = "threw " + e;
